@@ -209,6 +209,12 @@ final class EditTest {
         SceneShots turned = Due.told("players 4 3 1 1;shot 4 4 0 1 0 0 1;shot 4 2 0 1 0 0 1;");
         Due.due("side, players turned", turned.shot(0, 7), -1);
         Due.due("side, players turned", turned.shot(1, 7), 1);
+        SceneShots uneven = Due.told("players 2 7 5 1;shot 2 3 0 1 0 0 1;shot 4 3 0 1 0 0 1;shot 3 5 0 1 0 0 1;"
+                + "shot 1 9 0 1 0 0 1;shot 0 9 0 1 0 0 1;shot 9 0 0 1 0 0 1;");
+        int[] unevenSides = {-1, 0, 0, 0, -1, 1};
+        for (int shot = 0; shot < 6; shot++) {
+            Due.due("side of shot " + shot + ", uneven", uneven.shot(shot, 7), unevenSides[shot]);
+        }
         SceneShots across = Due.told("shot 1 7 0 1 0 0 1;shot 8 1 1 5 0 0 1;shot 0 5 2 3 0 0 1;");
         Due.due("side 1: only with 0", across.shot(0, 10), 4);
         Due.due("side -1: only with 0", across.shot(1, 10), 4);
@@ -242,6 +248,8 @@ final class EditTest {
         nearDue("5 9", "9 5", false);
         nearDue("9 9", "9 6", false);
         nearDue("8 8", "8 8", true);
+        SceneShots shortest = Due.told("shot 5 5 0 3 0 0 1;shot 5 5 0 3 0 0 1;shot 4 5 0 3 0 0 1;shot 5 6 0 3 0 0 1;");
+        Due.due("near by ways of 1, 0", shortest.shot(0, 10), 4 + 8);
     }
 
     private static void tooLike() {

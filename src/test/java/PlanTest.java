@@ -9,6 +9,7 @@ final class PlanTest {
         fewestShotsFirst();
         fewestCutsThen();
         lowestShotsLast();
+        allLinesAndShots();
         cheapest();
         cheapestInFloat();
         needed();
@@ -76,7 +77,33 @@ final class PlanTest {
         best(Due.told("lines 01;shot 2 8 1 1 0 7 3;shot 7 8 0 1 0 7 3;shot 7 8 2 1 0 7 3;"), 1, 0, "00");
         best(Due.told("lines 00;shot 2 8 1 1 0 7 3;shot 7 8 0 1 0 7 3;shot 7 8 2 1 0 7 3;"), 1, 0, "11");
         best(Due.told("lines 000;shot 2 8 0 1 1 2 3;shot 7 8 2 5 0 1 3;shot 2 8 0 5 0 0 3;"), 2, 1, "100");
+        best(Due.told("lines 1100;shot 2 8 0 1 0 3 3;shot 7 8 2 1 0 0 3;shot 7 8 2 5 1 3 3;"), 2, 1, "0222");
         best(Due.told("lines 00000000;shot 2 8 0 1 0 3 3;shot 7 8 2 1 3 7 3;shot 2 9 2 3 2 7 3;"), 2, 1, "00001111");
+    }
+
+    /** SHOTS 0 to 3 cover the last LINE alone, from the other side. */
+    private static void allLinesAndShots() {
+        SceneShots x = Due.told("lines00110011;shot1 1 2 1 7 7 1;shot3 1 2 3 7 7 1;shot5 1 2 5 7 7 1;shot7 1 2 1 7 7 1;"
+                + "shot2 8 0 1 0 7 9;shot7 8 1 1 0 7 9;");
+        best(x, 2, 3, "44454445");
+        Due.due("cheapest(0) of six", x.cheapest(0), 48);
+        Due.due("cheapest(1) of six", x.cheapest(1), 6000);
+        Due.due("needed() of six", x.needed(), 48);
+        x.sees(1, 1);
+        whichDue(x, 4, 0);
+        Due.due("makes() of eight", x.makes(), 8);
+        for (int line = 0; line < 8; line++) {
+            Due.due("made: line(" + line + ", 1)", x.line(line, 1), line % 4 == 3 ? 5 : 4);
+        }
+        int[] edits = {0, 0, 0, 3, 2};
+        for (int what = 0; what < 5; what++) {
+            Due.due("made: edit(" + what + ")", x.edit(what), edits[what]);
+        }
+        Due.due("line(7, 3)", x.line(7, 3), 63);
+        Due.due("shot(5, 10)", x.shot(5, 10), 16);
+        Due.due("strikes(0) of six", x.strikes(0), 0);
+        Due.due("moved up: line(7, 1)", x.line(7, 1), 4);
+        Due.due("moved up: shot(4, 2)", x.shot(4, 2), 1);
     }
 
     private static void cheapest() {

@@ -143,6 +143,11 @@ final class TextTest {
         fault("" + (char) 255, 0);
         fault("players lines", 8);
         fault("shot shot", 5);
+        fault("linesz 0;", 0);
+        fault("aines 0;", 0);
+        fault("linez 0;", 0);
+        fault("lines 0z;", 7);
+        fault("lines 0;z9", 8);
     }
 
     private static void faultsOfPlayers() {
@@ -164,6 +169,12 @@ final class TextTest {
         fault("players 1 -1 2 2;", 10);
         fault("players 1 1 2 1;players 1 1 2 1;", 16);
         fault("players 1 1 2 1;lines 0; players", 25);
+        fault("players 1 2 1 2;", 14);
+        fault("players 0 9 0 9;", 14);
+        items("players 1 2 2 1;", 1);
+        items("players 1 2 1 1;", 1);
+        items("players 1 2 2 2;", 1);
+        items("players 2 1 1 1;", 1);
         items("players 1 2 1 3;", 1);
         items("players 1 2 3 2;", 1);
         items("players 3 5 6 5;", 1);
