@@ -2,15 +2,21 @@
 final class Due {
     private static int asked = 0;
     private static int wrong = 0;
+    private static String test = "";
 
     private Due() {
+    }
+
+    /** What is told from here on is told under the test's name. */
+    static void within(String name) {
+        test = name + ": ";
     }
 
     static void due(String call, long got, long want) {
         asked++;
         if (got != want) {
             wrong++;
-            System.out.println(call + " answered " + got + ", due is " + want);
+            System.out.println(test + call + " answered " + got + ", due is " + want);
         }
     }
 
@@ -34,6 +40,10 @@ final class Due {
             due("tells() of '" + text + "', by which a test begins,", answer, 0);
         }
         return x;
+    }
+
+    static int asked() {
+        return asked;
     }
 
     static int wrong() {
