@@ -242,6 +242,8 @@ final class EdgeAskedTest {
         near("4 4 4 5", "4 5", "4 4", false);
         near("4 5 6 5", "9 5", "6 5", true);
         near("4 5 6 5", "9 9", "9 9", true);
+        near("3 5 6 5", "5 5", "5 5", true);
+        near("4 4 4 5", "4 5", "4 5", true);
     }
 
     static void promise11_aWayOf00IsNearAll() {

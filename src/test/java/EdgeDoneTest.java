@@ -228,6 +228,14 @@ final class EdgeDoneTest {
         }
     }
 
+    static void promise07_aShotThatNoLineHadIsStruckToo() {
+        SceneShots x = Due.told(SIX);
+        Due.due("strikes(5)", x.strikes(5), 0);
+        Due.due("count(4)", x.count(4), 2);
+        Due.due("undo()", x.undo(), 1);
+        Shown.sameScene("undo()", x, Due.told(SIX));
+    }
+
     // ---- makes
 
     static void promise08_howManyLinesHaveAnother() {

@@ -124,6 +124,16 @@ final class EdgePlanTest {
         best("lines 000;shot2 8 0 1 2 2 3;shot7 8 2 1 0 1 3;shot2 8 0 1 2 2 3;shot7 8 2 1 0 1 3;", 2, 1, "110");
     }
 
+    /** Sets are alike in SHOTS and CUTS: the lower SHOT at the first LINE that differs is of the set of higher bits. */
+    static void promise14_theLowerShotWhateverTheSetsBits() {
+        best("lines 00;shot2 8 0 1 0 0 3;shot2 2 0 1 0 0 3;shot7 2 2 1 1 1 3;shot7 8 2 1 1 1 3;", 2, 1, "03");
+        best("lines 00;shot2 8 0 1 0 0 3;shot2 2 0 1 0 0 3;shot7 8 2 1 1 1 3;shot7 2 2 1 1 1 3;", 2, 1, "02");
+        best("lines000;shot0 5 2 1 0 0 3;shot2 8 0 1 1 1 3;shot2 2 0 1 1 1 3;shot7 2 2 1 2 2 3;shot7 8 2 1 2 2 3;",
+                3, 2, "014");
+        best("lines000;shot0 5 2 1 0 0 3;shot2 8 0 1 1 1 3;shot2 2 0 1 1 1 3;shot7 8 2 1 2 2 3;shot7 2 2 1 2 2 3;",
+                3, 2, "013");
+    }
+
     static void promise14_askedNothingChanges() {
         int[] answers = {BAD, 2, 1, 1, 0, 0, 0, BAD};
         for (int k = -3; k <= 4; k++) {
@@ -230,6 +240,12 @@ final class EdgePlanTest {
         needed("lines 00;shot2 8 0 1 0 0 3;shot7 8 2 1 0 1 3;shot2 8 0 1 1 1 3;", 2);
     }
 
+    /** Two SHOTS can stand at the first LINE, but only one of them can be CUT together with that of the second. */
+    static void promise16_aShotThatLeadsNowhereIsNotNeeded() {
+        needed("lines 00;shot2 8 0 1 0 0 3;shot2 2 0 1 0 0 3;shot7 8 2 1 1 1 3;", 5);
+        needed("lines 00;shot2 2 0 1 0 0 3;shot2 8 0 1 0 0 3;shot7 8 2 1 1 1 3;", 6);
+    }
+
     static void promise16_askedNothingChanges() {
         Edges.leavesAll("needed()", Edges::rich, SceneShots::needed, 0);
         Edges.leavesAll("needed() of one shot", x -> Due.tell(x, "lines 0;shot2 8 0 1 0 7 3;"), SceneShots::needed, 1);
@@ -322,6 +338,16 @@ final class EdgePlanTest {
         Due.due("which(1)", x.which(1), 0);
         x.sees(1, 1);
         Due.due("which(0): what was forgotten does not count", x.which(0), 2);
+    }
+
+    static void promise18_nothingElseIsChanged() {
+        Shown.alike("forget()", x -> {
+            Edges.rich(x);
+            x.forget();
+        }, x -> {
+            Edges.scene(x);
+            Due.type(x, "lines 01");
+        });
     }
 
     static void promise18_nothingSeenNothingForgotten() {

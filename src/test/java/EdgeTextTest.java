@@ -200,13 +200,12 @@ final class EdgeTextTest {
     }
 
     static void promise03_nothingButTheTextIsChanged() {
-        Shown.alike("clear() of a text that came last", x -> {
+        Shown.alike("clear()", x -> {
             Edges.rich(x);
-            Due.type(x, ";;abc");
             x.clear();
         }, x -> {
-            Edges.rich(x);
-            x.clear();
+            Edges.scene(x);
+            x.sees(0, 1);
         });
         Edges.leavesAll("clear() of no text", x -> {
             Edges.rich(x);
@@ -637,15 +636,17 @@ final class EdgeTextTest {
     }
 
     static void promise04_seenAndImagesStay() {
-        SceneShots x = Due.told("lines 01;shot 2 8 0 1 0 7 3;");
-        x.puts(1, 0);
-        x.keep(0);
-        x.sees(0, 2);
-        Due.tell(x, SHOT + "shot3 4 2 1 0 7 9;");
-        Due.due("count(2)", x.count(2), 1);
-        Due.due("which(1)", x.which(1), 1);
-        Due.due("back(1)", x.back(1), STATE);
-        Due.due("back(0)", x.back(0), 1);
-        Due.due("line(1, 1)", x.line(1, 1), 0);
+        for (int image = 0; image < 2; image++) {
+            SceneShots x = Due.told("lines 01;shot 2 8 0 1 0 7 3;");
+            x.puts(1, 0);
+            x.keep(image);
+            x.sees(0, 2);
+            Due.tell(x, SHOT + "shot3 4 2 1 0 7 9;");
+            Due.due("count(2)", x.count(2), 1);
+            Due.due("which(1)", x.which(1), 1);
+            Due.due("the other image, that was not kept", x.back(1 - image), STATE);
+            Due.due("back(" + image + ")", x.back(image), 1);
+            Due.due("line(1, 1)", x.line(1, 1), 0);
+        }
     }
 }

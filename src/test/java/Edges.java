@@ -44,8 +44,15 @@ final class Edges {
         Due.finish(tests.getSimpleName());
     }
 
-    /** Two images, things to be undone, something seen, an edit with a gap, a text that ends too early. */
+    /** A scene with something seen, and a text that ends too early. */
     static void rich(SceneShots x) {
+        scene(x);
+        x.sees(0, 1);
+        Due.type(x, "lines 01");
+    }
+
+    /** Two images, seven that are known, an edit with a gap. */
+    static void scene(SceneShots x) {
         Due.tell(x, "lines 1;shot 9 9 2 5 0 7 9;");
         x.puts(0, 0);
         x.keep(1);
@@ -55,8 +62,6 @@ final class Edges {
         x.keep(0);
         x.puts(2, 2);
         x.takes(0);
-        x.sees(0, 1);
-        Due.type(x, "lines 01");
     }
 
     /** 160 letters that tell one LINE, 6 that are SEEN, 8 that are known. */
